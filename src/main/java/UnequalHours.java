@@ -229,9 +229,9 @@ public final class UnequalHours {
             case 1:
                 return span.half;
             case 2:
-                return mark / now.parts;
+                return now.hourOf(mark);
             case 3:
-                return mark % now.parts;
+                return mark - now.hourOf(mark) * now.parts;
             case 4:
                 return mark;
             default:
@@ -1153,6 +1153,7 @@ public final class UnequalHours {
             return test == '>' ? left > right : left == right;
         }
     }
+
     /** What keep(), restore() and undo() carry: TOWNS, PARTS, BELLS. */
     private static final class State {
         int townCount;
@@ -1181,6 +1182,11 @@ public final class UnequalHours {
 
         Town latestTown() {
             return townAt(townCount - 1);
+        }
+
+        /** The HOUR of a PLACE. */
+        int hourOf(int place) {
+            return parts > 0 ? place / parts : 0;
         }
 
         void addTown(int offset) {

@@ -24,7 +24,7 @@ public final class FaultTest {
 
     public static void main(String[] args) {
         FaultTest test = new FaultTest();
-        for (int i = 0; i < 40000; i++) {
+        for (int i = 0; i < 15000; i++) {
             test.tryText();
             test.tryBells();
             test.tryActs();

@@ -180,13 +180,12 @@ public final class LanguageTest {
             return;
         }
         UnequalHours x = new UnequalHours();
-        long thread = Thread.currentThread().getId();
         manyCalls(x);
-        long before = beans.getThreadAllocatedBytes(thread);
-        long empty = beans.getThreadAllocatedBytes(thread) - before;
-        before = beans.getThreadAllocatedBytes(thread);
+        long before = beans.getCurrentThreadAllocatedBytes();
+        long empty = beans.getCurrentThreadAllocatedBytes() - before;
+        before = beans.getCurrentThreadAllocatedBytes();
         int sum = manyCalls(x);
-        long made = beans.getThreadAllocatedBytes(thread) - before - empty;
+        long made = beans.getCurrentThreadAllocatedBytes() - before - empty;
         holds("calls make no objects, made bytes " + made + ", answers " + sum, made == 0);
     }
 

@@ -87,7 +87,8 @@ final class Oracle {
     }
 
     private static int between(int one, int two, int since, int all) {
-        int n = -200000;
+        // Counted up, from a little below where it must end.
+        int n = (int) ((double) (two - one) * since / all) - 3;
         while ((long) (n + 1) * all <= (long) (two - one) * since) {
             n++;
         }

@@ -17,7 +17,7 @@ public final class OracleTest {
     }
 
     public static void main(String[] args) {
-        for (long seed = 0; seed < 150; seed++) {
+        for (long seed = 0; seed < 600; seed++) {
             new OracleTest(seed).run();
         }
         Checks.close("OracleTest");

@@ -49,6 +49,9 @@ public final class PromiseTest {
         deeds();
         keptStates();
         writing();
+        staleTexts();
+        edgesOfDays();
+        edgesOfTowns();
         Checks.close("PromiseTest");
     }
 
@@ -911,5 +914,83 @@ public final class PromiseTest {
         }
         due("the longest", x.write(3), 8 + 12 * 17);
         due("its end", x.octet(8 + 12 * 17 - 1), ';');
+    }
+
+    /** Nothing of an earlier text is left over. */
+    private static void staleTexts() {
+        UnequalHours x = world("d1*2?w<9;n0*1?1=2;");
+        due("a COND goes", Checks.bells(x, "d1*2;n0*1;"), 2);
+        due("THINGS of none", x.bell(0, 4), 0);
+        due("THINGS of none, of the second", x.bell(1, 4), 0);
+        due("both ring", x.strokes(1, 9), 3);
+        due("a FAULT", Checks.bells(x, "d1*2?w<9;e"), NONE);
+        due("its place", x.fault(), 9);
+        due("BELLS stay", x.bell(0, 4), 0);
+        due("well again", Checks.acts(x, ""), 0);
+        due("no FAULT", x.fault(), NONE);
+        UnequalHours y = new UnequalHours();
+        Checks.put(y, "t12345;");
+        y.end(3);
+        due("what was cut off is not read", y.text(), NONE);
+        due("its length", y.fault(), 3);
+        due("-0", Checks.text(y, "t-0;p-0,-0,5;x1,-0;"), 3);
+        due("dark by -0", y.town(0, 17), 0);
+        textFault("t0;p0,1,-;", 9);
+        textFault("t0;p0,-;", 7);
+        textFault("t0;p-;", 5);
+        textFault("t0;x0,-;", 7);
+    }
+
+    private static void edgesOfDays() {
+        UnequalHours x = new UnequalHours();
+        Checks.text(x, "t0;p348,100,200;");
+        for (int i = 1; i < 12; i++) {
+            x.set(0, 348 + i, 100 + i, 200 + 3 * i);
+        }
+        due("the last of twelve POINTS", x.table(0, 359, 1), 233);
+        due("behind the last of twelve", x.table(0, 0, 1), 233 - 1);
+        due("ahead of the first of twelve", x.table(0, 347, 1), 200);
+        Checks.bells(x, "d0*1?1=2;d1*1?1=2;d2*1?1=2;d3*1?1=2;d4*1?1=2;d5*1?1=2;d6*1?1=2;d7*1;");
+        due("busiest, the eighth BELL", x.busiest(0, 0, 9, 0), 7);
+        due("busiest, the eighth BELL, many", x.busiest(0, 0, 9, 1), 9);
+        // From DAY 1 on 359 times 20 burn, 7180 in all; on DAY 360 a twelfth is 652, or 654.
+        UnequalHours y = new UnequalHours();
+        Checks.text(y, "t0;p0,0,7824;p1,0,240;p359,0,240;t0;p0,0,7848;p1,0,240;p359,0,240;");
+        due("candle on the last DAY asked", y.candle(0, 0, 1), 360);
+        due("candle a DAY further", y.candle(1, 0, 1), -2);
+        due("work of 360 DAYS", y.work(0, 1, 360, 0, 12), 359 * 240 + 7824);
+        due("work of 361 DAYS", y.work(0, 1, 361, 0, 12), NONE);
+        due("work turned", y.work(0, 2, 1, 0, 12), NONE);
+        // HOURS of a LIGHT of five seconds: the first begins at 0, of the next four pairs only one has a second.
+        Checks.text(y, "t0;p0,0,5;");
+        due("a short LIGHT's HOUR", y.back(2, 0, 0, 60), 1);
+        due("no such second", y.back(2, 0, 0, 12 * 60 - 1), -2);
+        due("work to DUSK", y.work(2, 0, 0, 10, 11), 0);
+        due("work from HOUR 9", y.work(2, 0, 0, 9, 12), 1);
+        due("apart none such", y.apart(2, 0, 0, 0, 719), AWAY);
+        due("lag none such", y.lag(2, 0, 0, 719), AWAY);
+        due("until none such", y.until(2, 0, 0, 0, 719), -2);
+        due("best where an HOUR is DUSK", y.best(2, 0, 1, 11, 2), 0);
+    }
+
+    private static void edgesOfTowns() {
+        UnequalHours x = new UnequalHours();
+        Checks.text(x, "t0;p0,1000,2000;t0;p0,2000,3000;t43200;p0,0,100;t-43200;p0,0,100;");
+        due("shared by one that only touches", x.shared(1, 5, 0), 0);
+        due("of no DAYS", x.shared(1, 5, 1), 0);
+        due("meet where one only touches", x.meet(1, 11, 0, 5, 0), AWAY);
+        due("meet the DAY ahead", x.meet(2 * 4 + 3, 0, 0, 5, 0), 0);
+        due("meet the DAY ahead of 0", x.meet(2 * 4 + 3, 0, 0, 0, 0), AWAY);
+        due("meet the next DAY", x.meet(3 * 4 + 2, 0, 0, 5, 1), 9);
+        due("meet DAY 36000", x.meet(3 * 4 + 2, 0, 0, 35999, 0), AWAY);
+        due("meet in another HOUR", x.meet(3 * 4 + 2, 0, 23, 5, 0), AWAY);
+        UnequalHours y = new UnequalHours();
+        // The second one's DAWN is the first one's, by its time on the next DAY.
+        Checks.text(y, "t0;p0,80000,86399;t43200;p0,36800,86399;");
+        Checks.bells(y, "d0*1;");
+        due("same on the next DAY", y.same(1, 5), 1);
+        due("same on the DAY ahead", y.same(4, 5), 1);
+        due("same above 35999", y.same(1, 35999), 0);
+        due("same below 0", y.same(4, 0), 0);
     }
 }
