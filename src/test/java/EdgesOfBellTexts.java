@@ -184,8 +184,16 @@ final class EdgesOfBellTexts extends Cases {
     }
 
     void p05_noMinusOfANumber() {
+        wrongBells("d^-1*1;");
+        wrongBells("d^-");
+        wrongBells("d0.^-0*1;");
+        wrongBells("d0.^-");
+        wrongBells("d0*^-1;");
+        wrongBells("d0*^-");
         wrongBells("d1*1?^-1<w;");
+        wrongBells("d1*1?^-");
         wrongBells("d1*1?w<^-1;");
+        wrongBells("d1*1?w<^-");
     }
 
     void p05_twoThingsAfterOneAnother() {
@@ -251,6 +259,30 @@ final class EdgesOfBellTexts extends Cases {
         bells(whole, 8);
         due(x.bell(7, 4), 5);
         wrongBells(whole + "^;");
+    }
+
+    void p05_townsAndPartsStay() {
+        text("t1;p5,6,7;", 2);
+        x.parts(7);
+        x.offset(0, 2);
+        x.set(0, 5, 8, 9);
+        bells("d1*1;", 1);
+        due(x.is(0), 1);
+        due(x.is(1), 7);
+        due(x.town(0, 0), 2);
+        due(x.town(0, 11), 8);
+    }
+
+    void p05_whatAFaultyTextBeganDoesNotCome() {
+        text("t1;", 1);
+        wrongText("p5,6,7;t2;^;");
+        bells("d1*1;", 1);
+        due(x.is(0), 1);
+        due(x.is(5), 0);
+        wrongBells("n2*2;^;");
+        text("t3;", 1);
+        due(x.is(2), 1);
+        due(x.bell(0, 1), 1);
     }
 
     void p05_theyStayByAFault() {

@@ -233,6 +233,10 @@ final class EdgesOfBells extends Cases {
         due(holds(0, 5, "2<1|1<2|2<1"), true);
         due(holds(0, 5, "1<2&1<2&2<1"), false);
         due(holds(0, 5, "2<1&1<2&1<2"), false);
+        due(holds(0, 5, "1<2&1<2"), true);
+        due(holds(0, 5, "1<2&1<2&1<2"), true);
+        due(holds(0, 5, "2<1|1<2&1<2"), true);
+        due(holds(0, 5, "2<1|2<1"), false);
     }
 
     void p16_productsBeforeSums() {
@@ -303,6 +307,15 @@ final class EdgesOfBells extends Cases {
         text(PLAIN, 2);
         due(holds(0, 6, "228=" + repeated("w+", 38) + "w"), false);
         due(holds(0, 6, "234=" + repeated("w+", 38) + "w"), true);
+    }
+
+    void p16_fortyNumbers() {
+        text(PLAIN, 2);
+        due(holds(0, 6, "44=" + repeated("1+", 38) + "6"), true);
+        due(holds(0, 6, "45=" + repeated("1+", 38) + "6"), false);
+        bells(repeated("d0*1?1+1+1+1=3;", 7) + "d1*1?1+1+1+1=4;", 8);
+        due(x.ring(0, 6, NONE, 0), 1);
+        due(x.ring(0, 6, 0, 1), 7);
     }
 
     void p16_theThingsOfEachBellAreItsOwn() {

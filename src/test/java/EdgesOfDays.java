@@ -671,6 +671,14 @@ final class EdgesOfDays extends Cases {
         due(x.apart(0, 5, 0, 7, 7), 0);
     }
 
+    void p26_midnight() {
+        text(LONGEST, 2);
+        x.parts(1);
+        due(x.apart(0, 5, 0, 0, 1), 7200);
+        due(x.apart(0, 5, 0, 1, 0), -7200);
+        due(x.apart(0, 5, 0, 0, 0), 0);
+    }
+
     void p26_oneIsNotThere() {
         text(SEVEN, 2);
         x.parts(1);

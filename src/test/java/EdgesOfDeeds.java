@@ -602,6 +602,28 @@ final class EdgesOfDeeds extends Cases {
         refused(() -> x.undo(), NONE);
     }
 
+    void p48_theDeedsAheadOfItStay() {
+        text("t1;p5,6,7;", 2);
+        x.parts(7);
+        x.offset(0, 2);
+        undone(2);
+        due(x.is(1), 7);
+        x.offset(0, 3);
+        x.set(0, 5, 8, 9);
+        undone(3);
+        due(x.is(1), 7);
+        due(x.town(0, 0), 3);
+        x.set(0, 5, 8, 9);
+        x.remove(0, 5);
+        undone(4);
+        due(x.town(0, 11), 8);
+        bells("d1*1;", 1);
+        undone(4);
+        due(x.town(0, 11), 8);
+        due(x.town(0, 0), 3);
+        due(x.is(1), 7);
+    }
+
     void p48_itselfIsNoDeed() {
         x.parts(7);
         x.parts(8);

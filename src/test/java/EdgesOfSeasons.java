@@ -123,6 +123,27 @@ final class EdgesOfSeasons extends Cases {
         bounds(this::work, with(0, 35990, 0, 0, 12), 2, 35990, 43200, 35999, 10 * 43200, NONE);
     }
 
+    void p22_daysThatAreNotThere() {
+        text(PLAIN, 2);
+        due(x.work(0, -1, 0, 0, 12), NONE);
+        due(x.work(0, -1, -1, 0, 12), NONE);
+        due(x.work(0, 35999, 36000, 0, 12), NONE);
+        due(x.work(0, 36000, 36000, 0, 12), NONE);
+    }
+
+    void p22_neverBackwards() {
+        text(PLAIN, 2);
+        due(x.work(0, 6, 5, 0, 12), NONE);
+        due(x.work(0, 35999, 0, 0, 12), NONE);
+        due(x.work(0, 5, MIN, 0, 12), NONE);
+    }
+
+    void p22_atMost359Further() {
+        text(PLAIN, 2);
+        due(x.work(0, 5, 364, 0, 12), 360 * 43200);
+        due(x.work(0, 5, 365, 0, 12), NONE);
+    }
+
     void p22_fromHour() {
         text(PLAIN, 2);
         bounds(this::work, with(0, 5, 5, 0, 12), 3, 0, 43200, 11, 3600, NONE);
@@ -289,6 +310,13 @@ final class EdgesOfSeasons extends Cases {
         due(x.best(0, 0, 3, 11, 0), 2);
         due(x.best(0, 0, 2, 11, 1), 0);
         due(x.best(0, 0, 2, 11, 2), 1);
+    }
+
+    void p27_asItBeginsNotAsItEnds() {
+        text("t0;p0,100,1300;p1,101,113;", 3);
+        // HOUR 0 is from 100 to 200, from 101 to 102.
+        due(x.best(0, 0, 2, 0, 1), 0);
+        due(x.best(0, 0, 2, 0, 2), 1);
     }
 
     void p27_ofLikeOnesTheFirst() {

@@ -64,6 +64,16 @@ final class EdgesOfTexts extends Cases {
         due(y.octet(0), NONE);
     }
 
+    void p01_theLastOfFiveHundredAndTwelveCalls() {
+        // Four calls: end(), feed(), end(), text().
+        Checks.put(x, PLAIN);
+        due(x.text(), 2);
+        for (int call = 5; call < 512; call++) {
+            due(x.parts(call), call == 5 ? 60 : call - 1);
+        }
+        due(x.turn(0, 5, 64799, 4), 12 * 511 - 1);
+    }
+
     // ---- 2: feed ----
 
     void p02_highestByteFirst() {
@@ -177,6 +187,20 @@ final class EdgesOfTexts extends Cases {
         due(x.end(3), 3);
         refused(() -> x.end(6), NONE);
         due(x.text(), 1);
+    }
+
+    void p03_whatWasCutIsNotRead() {
+        Checks.put(x, "t1;t2;");
+        x.end(5);
+        due(x.text(), NONE);
+        due(x.fault(), 5);
+        Checks.put(x, "t12;");
+        x.end(3);
+        due(x.text(), NONE);
+        due(x.fault(), 3);
+        Checks.put(x, "t1;t2;");
+        x.end(0);
+        due(x.text(), 0);
     }
 
     void p03_theNextBytesComeBehindTheCut() {
@@ -554,6 +578,16 @@ final class EdgesOfTexts extends Cases {
         text("t-43200;", 1);
         due(x.write(0), 8);
         written("t-43200;");
+    }
+
+    void p51_offsetsBesideNothing() {
+        text("t-1;t-0;t1;", 3);
+        due(x.write(0), 4);
+        written("t-1;");
+        due(x.write(1), 3);
+        written("t0;");
+        due(x.write(2), 3);
+        written("t1;");
     }
 
     void p51_lengthsOfNumbers() {

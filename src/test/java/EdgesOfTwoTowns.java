@@ -481,6 +481,7 @@ final class EdgesOfTwoTowns extends Cases {
     void p32_wrongGoesAheadOfNoSuchDay() {
         text(PLAIN, 2);
         due(x.arrive(0, 35999, 86399, 1, 4), NONE);
+        due(x.arrive(0, 35999, 86399, 1, -1), NONE);
         due(x.arrive(0, 35999, 86399, 864001, 0), NONE);
         due(x.arrive(0, 36000, 0, 0, 0), NONE);
     }
@@ -600,6 +601,12 @@ final class EdgesOfTwoTowns extends Cases {
         shown(1, 5, 0, 60, 5, 0, 0);
     }
 
+    void p37_atMidnight() {
+        text("t0;" + LONGEST + PLAIN, 4);
+        shown(0, 5, 0, 0, 5, 0, 0);
+        shown(1, 5, 0, 0, 4, 1, 360);
+    }
+
     void p37_aboveMidnight() {
         text(PLAIN, 2);
         shown(0, 5, 1, 359, 5, 1, 359);
@@ -619,6 +626,7 @@ final class EdgesOfTwoTowns extends Cases {
         text("t0;x0,1;", 2);
         due(x.shows(0, 5, 0, 0, 2), -2);
         due(x.shows(0, 5, 0, 0, 3), NONE);
+        due(x.shows(0, 5, 0, 0, -1), NONE);
         due(x.shows(0, 5, 0, 720, 2), NONE);
         due(x.shows(0, 5, 2, 0, 2), NONE);
         due(x.shows(0, 36000, 0, 0, 2), NONE);
@@ -811,6 +819,13 @@ final class EdgesOfTwoTowns extends Cases {
         due(x.lag(1, 5, 0, 719), AWAY);
         due(x.lag(4, 5, 0, 719), AWAY);
         due(x.lag(1, 5, 0, 0), -21600);
+    }
+
+    void p43_midnight() {
+        text(PLAIN + "t0;" + LONGEST, 4);
+        due(x.lag(1, 5, 0, 0), -21600);
+        due(x.lag(4, 5, 0, 0), 21600);
+        due(x.lag(5, 5, 0, 0), 0);
     }
 
     void p43_oneTown() {
