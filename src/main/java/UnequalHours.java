@@ -1,6 +1,6 @@
 /**
  * Unequal hours: each LIGHT and each NIGHT of a TOWN has twelve HOURS. The words in capitals are those of the
- * document (../shared/DOC.md); the numbers of its promises stand in README.md.
+ * document, ../shared/DOC.md, whose promises tell what each call answers.
  */
 public final class UnequalHours {
     public static final int NONE = -1;
@@ -12,6 +12,7 @@ public final class UnequalHours {
 
     private static final int DAYS = 36000;
     private static final int YEAR = 360;
+    private static final int WEEK = 7;
     private static final int SECONDS = 86400;
     private static final int NOON = 43200;
     private static final int HOURS = 12;
@@ -374,7 +375,11 @@ public final class UnequalHours {
     }
 
     public int strokes(int town, int day) {
-        return total(town, day, 1);
+        if (now.townAt(town) == null || !isDay(day)) {
+            return NONE;
+        }
+        rings.gather(now, town, day);
+        return rings.strokesBy(now.bells);
     }
 
     public int total(int town, int from, int many) {
@@ -384,9 +389,7 @@ public final class UnequalHours {
         int sum = 0;
         for (int day = from; day < from + many && day < DAYS; day++) {
             rings.gather(now, town, day);
-            for (int i = 0; i < rings.count; i++) {
-                sum += now.bells.strokesOf(rings.bell[i]);
-            }
+            sum += rings.strokesBy(now.bells);
         }
         return sum;
     }
@@ -1084,57 +1087,79 @@ public final class UnequalHours {
             things[count - 1]++;
         }
 
-        /** Whether COND of a BELL holds in a LIGHT or NIGHT, in one walk along its THINGS. */
+        /** Whether COND of a BELL holds in a LIGHT or NIGHT. */
         boolean holds(int k, int town, Span in) {
-            if (!within(k, 0, count - 1) || things[k] == 0) {
-                return true;
+            if (!within(k, 0, count - 1)) {
+                return false;
             }
-            boolean any = false;
             boolean both = true;
-            boolean minus = false;
-            int left = 0;
-            int test = 0;
-            int sum = 0;
-            int product = 0;
+            int left = firstThing[k];
             int end = Math.min(firstThing[k] + things[k], MOST_THINGS);
             for (int i = firstThing[k]; i < end; i++) {
                 int sign = signAhead[i];
-                int thing = worth(i, town, in);
-                if (sign == '*') {
-                    product *= thing;
-                    continue;
+                if (sign == '|') {
+                    if (both) {
+                        return true;
+                    }
+                    both = true;
                 }
-                if (sign == '/') {
-                    product = thing == 0 ? 0 : product / thing;
-                    continue;
+                if (joinsTests(sign)) {
+                    left = i;
                 }
-                int closed = minus ? sum - product : sum + product;
-                sum = sign == '+' || sign == '-' ? closed : 0;
-                // The sign is kept aside: a product that has wrapped and is then divided has no plain opposite.
-                minus = sign == '-';
-                product = thing;
                 if (isTest(sign)) {
-                    left = closed;
-                    test = sign;
-                } else if (sign == '&' || sign == '|') {
-                    both = both && compares(left, test, closed);
-                    any = any || both && sign == '|';
-                    both = both || sign == '|';
+                    both = both && compares(sum(left, end, town, in), sign, sum(i, end, town, in));
                 }
             }
-            return any || both && compares(left, test, minus ? sum - product : sum + product);
+            return both;
         }
 
         static boolean isTest(int sign) {
             return sign == '<' || sign == '>' || sign == '=';
         }
 
+        static boolean joinsTests(int sign) {
+            return sign == '&' || sign == '|';
+        }
+
+        static boolean joinsThings(int sign) {
+            return sign == '+' || sign == '-' || joinsFactors(sign);
+        }
+
+        private static boolean joinsFactors(int sign) {
+            return sign == '*' || sign == '/';
+        }
+
+        /** The SUM that begins with a THING; the sign ahead of that one is not the SUM's. */
+        private int sum(int from, int end, int town, Span in) {
+            int sum = 0;
+            for (int i = from; i < end && (i == from || joinsThings(signAhead[i])); i++) {
+                if (!joinsFactors(signAhead[i])) {
+                    int product = product(i, end, town, in);
+                    sum = signAhead[i] == '-' ? sum - product : sum + product;
+                }
+            }
+            return sum;
+        }
+
+        private int product(int from, int end, int town, Span in) {
+            int product = worth(from, town, in);
+            for (int i = from + 1; i < end && joinsFactors(signAhead[i]); i++) {
+                int thing = worth(i, town, in);
+                if (signAhead[i] == '*') {
+                    product *= thing;
+                } else {
+                    product = thing == 0 ? 0 : product / thing;
+                }
+            }
+            return product;
+        }
+
         private int worth(int i, int town, Span in) {
             switch (kind[i]) {
                 case 'w':
-                    return Math.floorMod(in.day, 7);
+                    return in.day % WEEK;
                 case 'y':
-                    return Math.floorMod(in.day, YEAR);
+                    return in.day % YEAR;
                 case 'l':
                     return in.length;
                 case 't':
@@ -1421,8 +1446,8 @@ public final class UnequalHours {
                 }
                 sign = tape.sign;
                 boolean isTest = Bells.isTest(sign);
-                boolean joinsTests = sign == '&' || sign == '|';
-                if (!isTest && !joinsTests && !joinsThings(sign)) {
+                boolean joinsTests = Bells.joinsTests(sign);
+                if (!isTest && !joinsTests && !Bells.joinsThings(sign)) {
                     // A COND may end only behind a whole TEST; the ; itself is the BELL's.
                     return tested || tape.fail();
                 }
@@ -1433,10 +1458,6 @@ public final class UnequalHours {
                 tape.step();
             }
             return tape.fail();
-        }
-
-        private static boolean joinsThings(int sign) {
-            return sign == '+' || sign == '-' || sign == '*' || sign == '/';
         }
 
         private static boolean readThing(Tape tape, Bells into, int signAhead) {
@@ -1731,6 +1752,14 @@ public final class UnequalHours {
                 }
             }
             return false;
+        }
+
+        int strokesBy(Bells bells) {
+            int sum = 0;
+            for (int i = 0; i < count; i++) {
+                sum += bells.strokesOf(bell[i]);
+            }
+            return sum;
         }
 
         void countInto(int[] tally) {
