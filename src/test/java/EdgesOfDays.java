@@ -538,12 +538,17 @@ final class EdgesOfDays extends Cases {
         due(x.date(0, 5, 0, 2), 5);
         due(x.date(0, 5, 64799, 2), 5);
         due(x.date(0, 5, 64800, 2), 6);
+        due(x.date(0, 5, 64801, 2), 6);
+        due(x.date(0, 5, 86399, 2), 6);
     }
 
     void p15_byNoon() {
         text(PLAIN, 2);
+        due(x.date(0, 5, 0, 3), 4);
         due(x.date(0, 5, 43199, 3), 4);
         due(x.date(0, 5, 43200, 3), 5);
+        due(x.date(0, 5, 43201, 3), 5);
+        due(x.date(0, 5, 86399, 3), 5);
     }
 
     void p15_below0() {
